@@ -31,6 +31,10 @@ public final class RandomRunsTest {
                 test.rowSets();
             } else if (kind == 1) {
                 test.wildCalls();
+            } else if (kind == 2) {
+                test.denseSeams();
+            } else if (kind == 3) {
+                test.branchingFinals();
             } else {
                 test.smallSets();
             }
@@ -97,6 +101,72 @@ public final class RandomRunsTest {
             }
             work(30);
             clear();
+        }
+    }
+
+    /** Seeds side by side, whatever holds them, so that seams of every strength come about. */
+    private void denseSeams() {
+        for (int round = 0; round < 3 && room(); round++) {
+            reset();
+            glues = 1 + draw(2);
+            for (int g = 1; g <= glues; g++) {
+                glue(g, 1 + draw(2));
+            }
+            for (int t = 0; t < 4; t++) {
+                tile(denseGlue(), denseGlue(), denseGlue(), denseGlue());
+            }
+            int wide = 2 + draw(10);
+            int high = 2 + draw(10);
+            left = draw(41 - wide);
+            low = draw(41 - high);
+            span = 4;
+            int gaps = draw(5);
+            for (int place = 0; place < wide * high && room(); place++) {
+                if (draw(10) >= gaps) {
+                    seed(left + place % wide, low + place / wide, someType());
+                }
+                if (draw(4) == 0) {
+                    seam();
+                }
+            }
+            work(10);
+            clear();
+        }
+    }
+
+    private int denseGlue() {
+        return draw(12) == 0 ? 0 : 1 + draw(glues);
+    }
+
+    /** Seeds that hold much and other types that hold little, so that the search comes to an end. */
+    private void branchingFinals() {
+        for (int round = 0; round < 8 && room(); round++) {
+            reset();
+            glues = 2 + draw(4);
+            temperature(1 + draw(2));
+            for (int g = 1; g <= glues; g++) {
+                glue(g, 1 + draw(2));
+            }
+            tile(someGlue(), someGlue(), someGlue(), someGlue());
+            int leaves = 2 + draw(9);
+            for (int t = 0; t < leaves; t++) {
+                int first = draw(4);
+                int second = draw(4);
+                int g = 1 + draw(glues);
+                tile(first == 0 || second == 0 ? g : 0, first == 1 || second == 1 ? someGlue() : 0,
+                    first == 2 ? g : 0, first == 3 || second == 3 ? someGlue() : 0);
+            }
+            left = 10;
+            low = 10;
+            span = 5;
+            for (int i = 0; i <= draw(4); i++) {
+                seed(someX(), someY(), draw(3) == 0 ? someType() : 1);
+            }
+            finals(30);
+            finals(1 + draw(30));
+            grow(draw(5));
+            drop(someX(), someY());
+            finals(1 + draw(30));
         }
     }
 
