@@ -108,12 +108,11 @@ public final class RandomRunsTest {
     private void denseSeams() {
         for (int round = 0; round < 3 && room(); round++) {
             reset();
-            glues = 1 + draw(2);
-            for (int g = 1; g <= glues; g++) {
-                glue(g, 1 + draw(2));
-            }
-            for (int t = 0; t < 4; t++) {
-                tile(denseGlue(), denseGlue(), denseGlue(), denseGlue());
+            glues = 2;
+            glue(1, 1 + draw(2));
+            glue(2, 1 + draw(2));
+            for (int t = 0; t < 3; t++) {
+                tile(mostly(1), mostly(2), mostly(1), mostly(2));
             }
             int wide = 2 + draw(10);
             int high = 2 + draw(10);
@@ -125,17 +124,18 @@ public final class RandomRunsTest {
                 if (draw(10) >= gaps) {
                     seed(left + place % wide, low + place / wide, someType());
                 }
-                if (draw(4) == 0) {
+                if (draw(10) == 0) {
                     seam();
                 }
             }
+            seam();
             work(10);
             clear();
         }
     }
 
-    private int denseGlue() {
-        return draw(12) == 0 ? 0 : 1 + draw(glues);
+    private int mostly(int glue) {
+        return draw(10) == 0 ? someGlue() : glue;
     }
 
     /** Seeds that hold much and other types that hold little, so that the search comes to an end. */
