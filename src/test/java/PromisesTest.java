@@ -25,6 +25,7 @@ public final class PromisesTest {
         test.attachAtEdges();
         test.grow();
         test.drawn();
+        test.drawnFromTheFrontier();
         test.drop();
         test.frontier();
         test.front();
@@ -209,6 +210,7 @@ public final class PromisesTest {
             warm.tile(2, 0, 1, 0);
             warm.tile(0, 0, 1, 2);
             warm.seed(10, 10, 1);
+            checks.due("pairs of one seed", k == 1 ? 3 : k == 2 ? 1 : 0, () -> warm.frontier());
             warm.seed(9, 11, 1);
             int one = k <= 1 ? 1 : 0;
             int two = k <= 2 ? 1 : 0;
@@ -270,6 +272,8 @@ public final class PromisesTest {
         checks.done("the field was empty by clear()", () -> b.seed(9, 9, 1));
         b.drawn(1, 1);
         checks.throwing("one has attached by drawn()", STATE, () -> b.seed(5, 5, 1));
+        b.drop(9, 9);
+        checks.throwing("what attached is left alone", STATE, () -> b.seed(5, 5, 1));
         b.reset();
         b.tile(0, 0, 0, 0);
         checks.done("the field was empty by reset()", () -> b.seed(9, 9, 1));
@@ -439,6 +443,21 @@ public final class PromisesTest {
         }
         checks.due("drawn(MOST, 5)", 1597, () -> once.drawn(MOST, 5));
         checks.due("count(1)", 1600, () -> once.count(1));
+    }
+
+    private void drawnFromTheFrontier() {
+        TileBench b = spreading();
+        b.seed(20, 20, 1);
+        int z = -123456789;
+        for (int i = 0; i < 60; i++) {
+            int before = z;
+            z = 1664525 * z + 1013904223;
+            int pair = (z >>> 8) % b.frontier();
+            int x = b.front(pair, 0);
+            int y = b.front(pair, 1);
+            checks.due("drawn(1, z)", 1, () -> b.drawn(1, before));
+            checks.due("pair " + pair + " has attached", 1, () -> b.at(x, y, 0));
+        }
     }
 
     private void drop() {
@@ -618,6 +637,7 @@ public final class PromisesTest {
         b.seed(20, 20, 1);
         b.attach(21, 20, 3);
         noBreach(b);
+        exactlyHeldAtEachSide();
         TileBench c = new TileBench();
         c.glue(1, 1);
         c.tile(1, 0, 0, 0);
@@ -638,6 +658,25 @@ public final class PromisesTest {
         c.seed(11, 11, 3);
         c.attach(10, 11, 5);
         breachIs(c, 1, 10, 11, 5);
+    }
+
+    private void exactlyHeldAtEachSide() {
+        for (int strength = 1; strength <= 2; strength++) {
+            TileBench b = new TileBench();
+            b.temperature(strength);
+            b.glue(1, strength);
+            b.glue(2, strength);
+            b.glue(3, strength);
+            b.glue(4, strength);
+            b.tile(1, 2, 3, 4);
+            b.tile(3, 0, 0, 0);
+            b.tile(0, 4, 0, 0);
+            b.tile(0, 0, 1, 0);
+            b.tile(0, 0, 0, 2);
+            b.seed(20, 20, 1);
+            checks.due("one at each side", 4, () -> b.grow(9));
+            noBreach(b);
+        }
     }
 
     private void breachTwo() {
@@ -728,6 +767,28 @@ public final class PromisesTest {
         b.clear();
         b.seed(39, 10, 1);
         checks.due("nothing grows beyond the edge", 1, () -> b.finals(1));
+        finalsInCorners();
+    }
+
+    /** The types that grow are the first ones here, the seed's is the last. */
+    private void finalsInCorners() {
+        TileBench b = new TileBench();
+        b.glue(1, 2);
+        b.tile(0, 1, 0, 0);
+        b.tile(0, 1, 0, 0);
+        b.tile(1, 0, 0, 0);
+        b.tile(1, 0, 0, 0);
+        b.tile(1, 0, 0, 0);
+        b.tile(0, 0, 1, 1);
+        b.seed(1, 0, 6);
+        checks.due("two types in the first place", 2, () -> b.finals(2));
+        b.clear();
+        b.seed(0, 1, 6);
+        checks.due("three types in the first place", 3, () -> b.finals(2));
+        b.clear();
+        b.seed(39, 39, 6);
+        checks.due("below and beside the last place", 6, () -> b.finals(3));
+        checks.due("not whole", -1, () -> b.finals(2));
     }
 
     private void finalsOfSeeds() {
@@ -838,6 +899,12 @@ public final class PromisesTest {
         b.drop(12, 11);
         b.seed(12, 10, 3);
         checks.due("without glues", 0, () -> b.seam());
+        b.clear();
+        b.seed(10, 10, 1);
+        b.seed(10, 11, 1);
+        b.seed(20, 10, 1);
+        b.seed(20, 11, 1);
+        checks.due("two pairs that hold each for itself", 0, () -> b.seam());
         TileBench c = new TileBench();
         c.glue(2, 2);
         c.tile(2, 2, 2, 2);
@@ -910,6 +977,37 @@ public final class PromisesTest {
         checks.due("one seed", 1, () -> b.count(0));
         tileAt(b, 0, 0, 2, 0, 0, 1);
         checks.throwing("the eighth type is gone", ARGUMENT, () -> b.count(8));
+        typesAre(b, new int[][] {{1, 0, 0, 0}, {2, 0, 0, 0}, {0, 0, 0, 4},
+            {1, 3, 1, 3}, {2, 4, 1, 3}, {2, 3, 2, 3}, {1, 4, 2, 4}});
+    }
+
+    /** A set's types by their glues: what may come beside each of them, and beside tiles that have one glue all round. */
+    private void typesAre(TileBench b, int[][] glues) {
+        b.clear();
+        b.temperature(1);
+        for (int g = 1; g <= 4; g++) {
+            b.tile(g, g, g, g);
+        }
+        for (int t = 1; t <= 7; t++) {
+            int type = t;
+            b.seed(20, 20, type);
+            int pairs = 0;
+            for (int side = 0; side < 4; side++) {
+                int glue = glues[t - 1][side];
+                pairs += glue == 0 ? 0 : 1;
+                for (int[] other : glues) {
+                    pairs += glue != 0 && glue == other[(side + 2) % 4] ? 1 : 0;
+                }
+                int x = side == 1 ? 21 : side == 3 ? 19 : 20;
+                int y = side == 0 ? 21 : side == 2 ? 19 : 20;
+                if (glue != 0) {
+                    checks.due("side " + side + " of type " + t, 1, () -> b.attach(x, y, 7 + glue) ? 1 : 0);
+                    b.drop(x, y);
+                }
+            }
+            checks.due("what may come beside type " + t, pairs, () -> b.frontier());
+            b.clear();
+        }
     }
 
     /** A tile's type tells its bit below and the carry in: 4 + 2 b + c; its north is the bit above. */
@@ -983,6 +1081,14 @@ public final class PromisesTest {
         checks.due("seeds", 69, () -> b.count(0));
         checks.due("grow", 1170, () -> b.grow(MOST));
         noBreach(b);
+        b.clear();
+        checks.due("rule(1, 0, 1, 0)", 7, () -> b.rule(1, 0, 1, 0));
+        checks.due("one seed", 1, () -> b.count(0));
+        tileAt(b, 1, 0, 1, 0, 0, 1);
+        b.clear();
+        checks.due("rule(2, 13, 1, 3)", 7, () -> b.rule(2, 13, 1, 3));
+        typesAre(b, new int[][] {{1, 0, 0, 0}, {2, 0, 0, 0}, {0, 3, 0, 0},
+            {2, 3, 1, 3}, {1, 4, 2, 3}, {2, 3, 1, 4}, {2, 4, 2, 4}});
     }
 
     /** Each row is made of the one below: a cell and its western one, 0 west of the first. */
