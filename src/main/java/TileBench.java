@@ -778,12 +778,15 @@ public final class TileBench {
         }
     }
 
-    /** The least cut between the first tile and any other one, by flows along the sides that hold. */
+    /**
+     * The least cut, by flows along the sides that hold, from each tile to those gathered before it. These
+     * may be taken as one: what parts them from each other has been found when the later of them flowed.
+     */
     private static final class Seams {
         private final int[] links = new int[MOST_SEAM_TILES * SIDES];
         private final int[] weights = new int[MOST_SEAM_TILES * SIDES];
         private final int[] rooms = new int[MOST_SEAM_TILES * SIDES];
-        // The side by which the search came to a tile; NONE where it has not been.
+        // The side by which the search left for a tile; NONE where it has not been.
         private final int[] arrivals = new int[MOST_SEAM_TILES];
         private final int[] queue = new int[MOST_SEAM_TILES];
         // The tile gathered last in each column: a place's southern neighbour, if it has one.
@@ -792,9 +795,9 @@ public final class TileBench {
 
         int weakest(Field field) {
             gather(field);
-            int best = leastDegree();
-            for (int target = 1; target < tiles && best > 0; target++) {
-                best = flow(target, best);
+            int best = SIDES * MOST_STRENGTH;
+            for (int tile = 1; tile < tiles && best > 0; tile++) {
+                best = flow(tile, best);
             }
             return best;
         }
@@ -816,7 +819,7 @@ public final class TileBench {
             }
         }
 
-        /** Ties the tile being gathered to an earlier one; what holds is the neighbour, so weight 0 is no tie. */
+        /** Ties the tile being gathered to its neighbour, which was gathered before it, if that holds it. */
         private void tie(int earlier, int side, int weight) {
             if (weight == 0 || earlier < 0) {
                 return;
@@ -827,36 +830,26 @@ public final class TileBench {
             weights[earlier * SIDES + opposite(side)] = weight;
         }
 
-        private int leastDegree() {
-            int least = SIDES * MOST_STRENGTH;
-            for (int tile = 0; tile < tiles; tile++) {
-                int degree = 0;
-                for (int side = 0; side < SIDES; side++) {
-                    degree += weights[tile * SIDES + side];
-                }
-                least = Math.min(least, degree);
-            }
-            return least;
-        }
-
-        /** How much can flow from tile 0 to another one, most at most. */
-        private int flow(int target, int most) {
+        /** How much can flow from a tile to those before it, most at most. */
+        private int flow(int from, int most) {
             System.arraycopy(weights, 0, rooms, 0, tiles * SIDES);
             for (int flown = 0; flown < most; flown++) {
-                if (!reaches(target)) {
+                int end = earlierOne(from);
+                if (end == NONE) {
                     return flown;
                 }
-                push(target);
+                push(from, end);
             }
             return most;
         }
 
-        private boolean reaches(int target) {
+        /** The first tile before another one that the search from there comes to, or NONE. */
+        private int earlierOne(int from) {
             Arrays.fill(arrivals, NONE);
-            arrivals[0] = 0;
-            queue[0] = 0;
-            int ends = 1;
-            for (int next = 0; next < ends; next++) {
+            arrivals[from] = 0;
+            queue[0] = from;
+            int queued = 1;
+            for (int next = 0; next < queued; next++) {
                 int tile = queue[next];
                 for (int side = 0; side < SIDES; side++) {
                     int there = links[tile * SIDES + side];
@@ -864,19 +857,20 @@ public final class TileBench {
                         continue;
                     }
                     arrivals[there] = side;
-                    if (there == target) {
-                        return true;
+                    if (there < from) {
+                        return there;
                     }
-                    queue[ends] = there;
-                    ends++;
+                    queue[queued] = there;
+                    queued++;
                 }
             }
-            return false;
+            return NONE;
         }
 
-        private void push(int target) {
-            int tile = target;
-            for (int step = 0; step < tiles && tile != 0; step++) {
+        /** Lets 1 flow along the way that the search has found. */
+        private void push(int from, int end) {
+            int tile = end;
+            for (int step = 0; step < tiles && tile != from; step++) {
                 int side = arrivals[tile];
                 int back = tile * SIDES + opposite(side);
                 tile = links[back];
