@@ -10,7 +10,7 @@ public final class TileBench {
 
     private static final int WIDTH = 40;
     // The field lies inside a wall one place thick, so that every place has four neighbours.
-    private static final int ROW = WIDTH + 2;
+    private static final int ROW = 42;
     private static final int PLACES = ROW * ROW;
     private static final int GLUES = 100;
     private static final int MOST_STRENGTH = 2;
@@ -30,8 +30,8 @@ public final class TileBench {
     private static final int SOUTH = 2;
     private static final int WEST = 3;
     private static final int ALL_SIDES = 15;
-    // From a place to its neighbour at each side, and at last to the place itself.
-    private static final int[] STEPS = {ROW, 1, -ROW, -1, 0};
+    // From a place to its neighbour at each side (a ROW is 42), and at last to the place itself.
+    private static final int[] STEPS = {42, 1, -42, -1, 0};
 
     // A place and a type in one number, so that a pair can be answered without an object.
     private static final int PAIR_BITS = 6;
@@ -160,15 +160,7 @@ public final class TileBench {
             throw new IndexOutOfBoundsException("the frontier has no such pair");
         }
         needWithin(what, 0, 2);
-        int pair = field.pairNumber(i);
-        switch (what) {
-            case 0:
-                return xOf(placeIn(pair));
-            case 1:
-                return yOf(placeIn(pair));
-            default:
-                return typeIn(pair);
-        }
+        return partOf(field.pairNumber(i), what);
     }
 
     public int at(int x, int y, int what) throws IndexOutOfBoundsException, IllegalArgumentException {
@@ -206,15 +198,7 @@ public final class TileBench {
         if (found == NO_BREACH) {
             return NONE;
         }
-        int pair = found >> BREACH_BITS;
-        switch (what) {
-            case 1:
-                return xOf(placeIn(pair));
-            case 2:
-                return yOf(placeIn(pair));
-            default:
-                return typeIn(pair);
-        }
+        return partOf(found >> BREACH_BITS, what - 1);
     }
 
     public int finals(int limit) throws IllegalStateException, IllegalArgumentException {
@@ -336,6 +320,18 @@ public final class TileBench {
 
     private static int opposite(int side) {
         return side ^ 2;
+    }
+
+    /** A pair's x (0), y (1) or type (2). */
+    private static int partOf(int pair, int what) {
+        switch (what) {
+            case 0:
+                return xOf(placeIn(pair));
+            case 1:
+                return yOf(placeIn(pair));
+            default:
+                return typeIn(pair);
+        }
     }
 
     /** A seed as the field keeps it: its type, no inputs, and the mark. */

@@ -966,6 +966,17 @@ public final class PromisesTest {
         checks.throwing("there are tiles", STATE, () -> b.counter(3, 6, 4));
         checks.throwing("there are tiles, and no bits", STATE, () -> b.counter(0, 6, 4));
         b.clear();
+        onlyTheSetIsThere(b);
+        checks.due("counter(1, 1, 1)", 7, () -> b.counter(1, 1, 1));
+        checks.due("one seed", 1, () -> b.count(0));
+        tileAt(b, 0, 0, 2, 0, 0, 1);
+        checks.throwing("the eighth type is gone", ARGUMENT, () -> b.count(8));
+        typesAre(b, new int[][] {{1, 0, 0, 0}, {2, 0, 0, 0}, {0, 0, 0, 4},
+            {1, 3, 1, 3}, {2, 4, 1, 3}, {2, 3, 2, 3}, {1, 4, 2, 4}});
+    }
+
+    /** Of what there was before the set of rows nothing is left; a type more is its eighth. */
+    private void onlyTheSetIsThere(TileBench b) {
         for (int g = 1; g <= 5; g++) {
             int glue = g;
             checks.due("glue " + g, g <= 4 ? 1 : 0, () -> b.glue(glue, 1));
@@ -973,12 +984,6 @@ public final class PromisesTest {
         checks.due("glue 50", 0, () -> b.glue(50, 0));
         checks.due("the temperature", 2, () -> b.temperature(2));
         checks.due("a type behind them", 8, () -> b.tile(0, 0, 0, 0));
-        checks.due("counter(1, 1, 1)", 7, () -> b.counter(1, 1, 1));
-        checks.due("one seed", 1, () -> b.count(0));
-        tileAt(b, 0, 0, 2, 0, 0, 1);
-        checks.throwing("the eighth type is gone", ARGUMENT, () -> b.count(8));
-        typesAre(b, new int[][] {{1, 0, 0, 0}, {2, 0, 0, 0}, {0, 0, 0, 4},
-            {1, 3, 1, 3}, {2, 4, 1, 3}, {2, 3, 2, 3}, {1, 4, 2, 4}});
     }
 
     /** A set's types by their glues: what may come beside each of them, and beside tiles that have one glue all round. */
@@ -1070,13 +1075,7 @@ public final class PromisesTest {
         checks.throwing("there are tiles", STATE, () -> b.rule(3, 6, 3, 1));
         checks.throwing("there are tiles, and no width", STATE, () -> b.rule(0, 6, 3, 1));
         b.clear();
-        for (int g = 1; g <= 5; g++) {
-            int glue = g;
-            checks.due("glue " + g, g <= 4 ? 1 : 0, () -> b.glue(glue, 1));
-        }
-        checks.due("glue 50", 0, () -> b.glue(50, 0));
-        checks.due("the temperature", 2, () -> b.temperature(2));
-        checks.due("a type behind them", 8, () -> b.tile(0, 0, 0, 0));
+        onlyTheSetIsThere(b);
         checks.due("rule(30, 9, 40, all)", 7, () -> b.rule(30, 9, 40, (1 << 30) - 1));
         checks.due("seeds", 69, () -> b.count(0));
         checks.due("grow", 1170, () -> b.grow(MOST));
