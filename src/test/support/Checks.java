@@ -46,6 +46,10 @@ final class Checks {
         }
     }
 
+    int checked() {
+        return checked;
+    }
+
     boolean anyWrong() {
         return wrong > 0;
     }
