@@ -207,6 +207,8 @@ public final class TellingEdgesTest {
                 doc.due(b, limit >= tiles ? 1 : NONE, "finals", limit);
             }
         }
+        doc.told(States.FULL, NONE, "finals", 1);
+        doc.told(States.FULL, NONE, "finals", 30);
         TileBench endless = State.made(States::spreading);
         endless.seed(20, 20, 1);
         doc.due(endless, NONE, "finals", 1);

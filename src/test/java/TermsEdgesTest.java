@@ -10,12 +10,17 @@ public final class TermsEdgesTest {
 
     public static void main(String[] args) {
         TermsEdgesTest test = new TermsEdgesTest();
+        test.ofTheObject();
         test.ofTheSet();
         test.ofTheField();
         test.ofAttaching();
         test.ofBreaches();
         test.ofDrawnGrowth();
         test.doc.finish();
+    }
+
+    private void ofTheObject() {
+        doc.says("An object is used for at most 512 calls after it has been made", this::fiveHundredAndTwelveCalls);
     }
 
     private void ofTheSet() {
@@ -53,6 +58,7 @@ public final class TermsEdgesTest {
         doc.says("by its own glues at them, whatever stands there now", this::heldByWhatIsGone);
         doc.says("2 another type could attach, if that place were empty", this::anotherType);
         doc.says("and the neighbours at its outputs were not there", this::withoutItsOutputs);
+        doc.says("nor those at outputs that are inputs too", this::withoutOutputsThatAreInputs);
         doc.says("a tile that is no seed", this::seedsAreNoBreach);
         doc.says("2 (the least type)", this::leastOtherType);
         doc.says("by y, then x", this::breachesInOrder);
@@ -69,6 +75,25 @@ public final class TermsEdgesTest {
 
     private static TileBench spreading() {
         return State.made(States::spreading);
+    }
+
+    /** 51 rounds of ten calls, each of which answers as in the first one, and two calls more. */
+    private void fiveHundredAndTwelveCalls() {
+        TileBench b = new TileBench();
+        for (int round = 1; round <= 51; round++) {
+            doc.due(b, 7, "counter", 20, 1048575, 40);
+            doc.due(b, 780, "drawn", MOST, round);
+            doc.due(b, 839, "count", 0);
+            doc.due(b, 0, "breach", 0);
+            doc.due(b, 839, "clear");
+            doc.due(b, 7, "rule", 2, 6, 3, 3);
+            doc.due(b, 1, "finals", 8);
+            doc.due(b, 1, "frontier");
+            doc.due(b, 0, "seam");
+            doc.done(b, "reset");
+        }
+        doc.due(b, 1, "tile", 0, 0, 0, 99);
+        doc.due(b, 0, "glue", 99, 2);
     }
 
     private void gluesHoldNothingAtFirst() {
@@ -543,6 +568,25 @@ public final class TermsEdgesTest {
         b.attach(20, 21, 3);
         doc.tile(b, 20, 21, 3, 1, 0, 0);
         doc.breach(b, 2, 20, 21, 2);
+    }
+
+    /** Type 3 came to a tile that had come to the place where it is now: each has the other one as an output. */
+    private void withoutOutputsThatAreInputs() {
+        TileBench b = State.made(States::pair);
+        b.tile(1, 0, 0, 0);
+        b.seed(20, 20, 1);
+        b.attach(20, 21, 2);
+        b.drop(20, 20);
+        doc.breach(b, 3, 20, 20, 1);
+        b.attach(20, 20, 3);
+        doc.tile(b, 20, 20, 3, 1, 1, 0);
+        doc.tile(b, 20, 21, 2, 4, 4, 0);
+        doc.noBreach(b);
+        b.clear();
+        b.seed(20, 21, 2);
+        b.attach(20, 20, 3);
+        doc.tile(b, 20, 20, 3, 1, 0, 0);
+        doc.breach(b, 2, 20, 20, 1);
     }
 
     private void seedsAreNoBreach() {

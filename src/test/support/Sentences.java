@@ -50,7 +50,7 @@ final class Sentences {
         unchanged(state, call, numbers);
     }
 
-    /** A call of a number that is answered on a new object in a state. */
+    /** A call that answers in a state, whatever it changes. */
     void allowed(State state, long want, String call, int... numbers) {
         due(state.make(), want, call, numbers);
     }
