@@ -845,7 +845,8 @@ public final class TileBench {
             arrivals[from] = 0;
             queue[0] = from;
             int queued = 1;
-            for (int next = 0; next < queued; next++) {
+            // Each tile is queued once at most.
+            for (int next = 0; next < tiles && next < queued; next++) {
                 int tile = queue[next];
                 for (int side = 0; side < SIDES; side++) {
                     int there = links[tile * SIDES + side];
